@@ -777,7 +777,7 @@ public final class FigureHeads {
                 return NONE;
             }
             int next = cellOf(row, column);
-            return at(next) == ROCK ? NONE : next;
+            return cells[next] == ROCK ? NONE : next;
         }
 
         static int away(int a, int b) {
@@ -850,7 +850,7 @@ public final class FigureHeads {
         }
 
         boolean trusts(int ship, int teller) {
-            return credit[teller] >= doubtOf(ship, teller);
+            return credit[teller] >= doubtBy(kind[ship], worm[ship], teller);
         }
 
         int allWorm() {

@@ -152,6 +152,7 @@ public final class FigureHeadsPromises {
         x.drift(0);
         x.image(0);
         x.sheet(2, 1, 7);
+        x.decades(3, 5, 0);
         due("3 another fleet", fed(x, FIVE).fleet(), 5);
         due("3 turn 0", x.count(3), 0);
         due("3 nothing to undo", x.undo(), NONE);

@@ -143,6 +143,7 @@ public final class FigureHeadsBoundsForetold {
         crewIs("one ship", "f.;o00n0;9999", 1, 0);
         crewIs("one ship, deaf", "f.;d00n0;9999", 0, NONE);
         crewIs("one ship, the last teller", "f.;o00n0;2223", 1, 3);
+        crewIs("every other ship believes", "f.;d00n0,o00n0,d00n0,o00n0;9999", 2, NONE, 0, NONE, 1);
         crewIs("the last ships believe", "f.;d00n0,d00n0,o00n0,o00n0,o00n0,o00n0;9999", 4, NONE, NONE, 0, 1, 2, 3);
         Due.sentence(20, "of several the first (SHIP by SHIP the lesser TELLER, none last; who is not BELIEVED is none's)");
         crewIs("gives way to a thomas", "f.;o00n0,t00n0;9900", 2, 1, 0);
@@ -205,6 +206,8 @@ public final class FigureHeadsBoundsForetold {
         due("three, d 2: the middle one", three.links(2), 2);
         due("three, d 3: the middle one still", three.links(3), 2);
         due("three, d 4: all by themselves", three.links(4), 0);
+        due("the first ship", Due.with("f...;o01n0,o00n0,o02n0;0000").links(1), 1);
+        due("the last ship of six", Due.with("f....;o00n0,o01n0,o01n0,o03n0,o03n0,o02n0;0000").links(1), 32);
         due("two in the middle", Due.with("f.....;o00n0,o02n0,o04n0,o02n0;0000").links(2), 0);
         due("all in one cell", Due.with(SIX + "0000").links(0), 0);
         due("a ring", Due.with("f../..;o00n0,o01n0,o11n0,o10n0;0000").links(1), 0);
@@ -239,6 +242,13 @@ public final class FigureHeadsBoundsForetold {
         // a's word is not heard, she goes w; by LEFT of b she strikes, and stays 3 away.
         due("b alone is believed", Due.with("fo../.../...;o22w0;0300").talk(0, 0, 1, 1), 3);
         due("a first, then b", Due.with("fo../.../...;o22w0;3300").talk(0, 0, 1, 1), 3);
+        due("a's second word brings her there", Due.with("f.../##./##o;o00e0;9000").talk(0, 0, 1, 2), 0);
+        due("b's second word does not keep her from it", Due.with("f.../##./##o;o00e0;9000").talk(0, 0, 2, 3), 0);
+        // b has her strike, looking n, and turns her back to 0 by the second word.
+        due("said by b it keeps her away", Due.with("f.../##./##o;o00e0;0900").talk(0, 0, 1, 2), 4);
+        Due.sentence(23, "a wanting little, b much");
+        due("of 0 and more a wants 0", Due.with("f..o;o00e0;9000").talk(0, 0, 1, 1), 0);
+        due("of 0 and more b wants more", Due.with("f.o.;o00e0;9000").talk(0, 1, 0, 1), 1);
         Due.sentence(23, "how far AWAY the SHIP is from the nearest HARBOUR at last");
         due("in it", Due.with("fo;d00n0;0000").talk(0, 0, 1, 0), 0);
         due("in it, struck six times", Due.with("fo;d00n0;0000").talk(0, 0, 1, 3), 0);
@@ -283,6 +293,18 @@ public final class FigureHeadsBoundsForetold {
         return worm;
     }
 
+    /** Of one teller with credit at a time the word is believed; by LEFT she strikes a rock. */
+    private static void whoSaysWhat(int seed, long x) {
+        for (int teller = 0; teller < 4; teller++) {
+            String credit = new String[] {"3000", "0300", "0030", "0003"}[teller];
+            boolean his = x / 16 % 4 == teller;
+            int want = !his ? 3 : x / 256 % 3 == 1 ? 1 : 4;
+            due("seed " + seed + " teller " + teller, Due.with("f.../#../...;o11n0;" + credit).decades(1, seed, 1), want);
+            int mirrored = !his ? 3 : x / 256 % 3 == 2 ? 1 : 4;
+            due("seed " + seed + " teller " + teller + ", a mirror", Due.with("f.../#../...;m11n2;" + credit).decades(1, seed, 1), mirrored);
+        }
+    }
+
     private static void decadesBounds() {
         Due.sentence(24, "DECADES (n 0 .. 60; a SEED 1 .. 999999): WORM (what 0), CREDIT (1). BAD; NOT: no FLEET.");
         for (int n = 0; n <= 60; n++) {
@@ -304,6 +326,16 @@ public final class FigureHeadsBoundsForetold {
         Due.stays("nothing changes, n 0", Due.BUSY, x -> x.decades(0, 1, 0), 3);
         Due.stays("nothing changes, n 0: credit", Due.BUSY, x -> x.decades(0, 999999, 1), 14);
         Due.stays("nothing changes, n 60", Due.BUSY, x -> Math.min(0, x.decades(60, 999999, 0)), 0);
+        Due.sentence(24, "FORETOLD from now");
+        FigureHeads acted = Due.with("f..;d00e0;1111");
+        acted.drift(0);
+        acted.drift(0);
+        acted.learn(2);
+        due("two acts on: worm", acted.decades(0, 1, 0), 1);
+        due("two acts on: credit", acted.decades(0, 1, 1), 5);
+        due("two acts on, a turn: worm", acted.decades(1, 1, 0), 2);
+        Due.fed(acted, "f..;d00e5;").fleet();
+        due("behind a fault: worm", acted.decades(0, 1, 0), 1);
         Due.sentence(24, "the SHIP that had it is SCRAPED then, if WORM is not 0");
         // X is 7 times 16807, 117649: word 0 by teller 1, and by 4096 it leaves 28, which is 0 by 7.
         due("she goes, worm 0", Due.with("f..;d00e0;0000").decades(1, 7, 0), 0);
@@ -322,6 +354,19 @@ public final class FigureHeadsBoundsForetold {
         due("still: a rock, worm", Due.with("f.#./.../...;o11n1;0040").decades(1, 999999, 0), 1);
         due("still: no rock, worm", Due.with("f.../#.#/.#.;o11n1;0040").decades(1, 999999, 0), 0);
         due("another teller says nothing", Due.with("f.#./.../...;o11n0;3303").decades(1, 999999, 1), 9);
+        Due.sentence(24, "the TELLER that X by 16 (cut) leaves by 4 says the WORD that X by 256 (cut) leaves by 3");
+        for (int seed = 1; seed <= 60; seed++) {
+            whoSaysWhat(seed, seed * 16807L);
+        }
+        Due.sentence(24, "to the SHIP that X leaves by how many there are");
+        // X is 16807, and leaves 1 by 6, 2 by 5, 3 by 4, 1 by 3, 1 by 2, 0 by 1; the one of worm 0 alone strikes to worm 1.
+        String[] others = {"", "d00n5,", "d00n5,", "d00n5,d00n5,d00n5,", "d00n5,d00n5,", "d00n5,"};
+        String[] behind = {"", "", ",d00n5", "", ",d00n5,d00n5", ",d00n5,d00n5,d00n5,d00n5"};
+        for (int n = 1; n <= 6; n++) {
+            FigureHeads x = Due.with("f.;" + others[n - 1] + "d00n0" + behind[n - 1] + ";0000");
+            due("of " + n + " ships: how many", x.count(0), n);
+            due("of " + n + " ships", x.decades(1, 1, 0), 5 * (n - 1) + 1);
+        }
         due("of two ships the first", Due.with("f.;o00n0,d00n0;0030").decades(1, 999999, 1), 1);
     }
 

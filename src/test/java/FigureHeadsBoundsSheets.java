@@ -436,6 +436,8 @@ public final class FigureHeadsBoundsSheets {
         kindsIs("n 1, left by a deaf one", NINE, 0, 8, 0, 1, 1);
         kindsIs("n 1, left by teller 1", NINE, 1, 6, 0, 1, 8);
         kindsIs("n 1, left by teller 1: a thomas is as deaf", NINE, 1, 24, 0, 1, 1);
+        kindsIs("n 2, right, then left", NINE, 0, 22, 0, 2, 10, 1, 2);
+        kindsIs("n 3, still, right, right", NINE, 0, 22, 0, 0, 1, 2, 2, 2, 10);
         kindsIs("n 10", "f.;o00n0;0000", 1, 62, 0, tenPairs(0, 0));
         kindsIs("n 10, the first cell is another", "f.;o00n0;0000", 1, 0, NONE, tenPairs(1, 1));
         kindsIs("n 10, the last cell is another", "f.;o00n0;0000", 1, 0, NONE, tenPairs(19, 1));
@@ -460,6 +462,8 @@ public final class FigureHeadsBoundsSheets {
         kindsIs("left and right are alike", NINE, 0, 62, 1, 0, 1);
         kindsIs("a rock to the left: right", "f#../.../...;o11n0;9900", 0, 62, 2, 0, 1);
         kindsIs("a rock to the right: left", "f..#/.../...;o11n0;9900", 0, 62, 1, 0, 1);
+        kindsIs("one kind alone: still", "f....;o01e0;3000", 0, 8, 0, 1, 2);
+        kindsIs("a mirror alone: still, to cell 0", "f..../....;o02s0;9000", 0, 32, 0, 1, 1);
         kindsIs("all strike: still", "f.#./.../...;o10e0;0000", 1, 62, 0, 0, 9);
         Due.sentence(31, "none: there is no KIND");
         kindsIs("a kind by the first pair, none by the second", NINE, 0, 0, NONE, 1, 8, 0, 9);

@@ -145,6 +145,12 @@ public final class FigureHeadsBoundsForetold {
         crewIs("one ship, the last teller", "f.;o00n0;2223", 1, 3);
         crewIs("every other ship believes", "f.;d00n0,o00n0,d00n0,o00n0;9999", 2, NONE, 0, NONE, 1);
         crewIs("the last ships believe", "f.;d00n0,d00n0,o00n0,o00n0,o00n0,o00n0;9999", 4, NONE, NONE, 0, 1, 2, 3);
+        FigureHeads fewer = Due.with(SIX + "9999");
+        due("six ships", fewer.crew(-1), 4);
+        Due.fed(fewer, "f.;o00n0;9999").fleet();
+        due("then one ship", fewer.crew(-1), 1);
+        due("then one ship: believed", fewer.believed(0), 1);
+        due("then one ship: hears", fewer.hears(0, 12), 1);
         Due.sentence(20, "of several the first (SHIP by SHIP the lesser TELLER, none last; who is not BELIEVED is none's)");
         crewIs("gives way to a thomas", "f.;o00n0,t00n0;9900", 2, 1, 0);
         crewIs("two thomases: the first has him", "f.;t00n0,t00n0;9999", 1, 0, NONE);

@@ -272,6 +272,7 @@ public final class FigureHeadsBoundsTold {
         FigureHeads x = Due.idle();
         due("turn before", x.count(3), 3);
         due("acts before", x.count(8), 5);
+        due("foretold before", x.decades(0, 1, 1), 14);
         due("fleet", Due.fed(x, "fo#;o00n3;1234").fleet(), 1);
         int[] counts = {1, 2, 1, 0, 3, 10, 1, 1, 0, 0};
         for (int what = 0; what < 10; what++) {
@@ -283,6 +284,11 @@ public final class FigureHeadsBoundsTold {
         due("a column of the one before", x.sea(2), BAD);
         Due.state("the new ship", x, 0, 0, 0, 3);
         Due.credits("the new credit", x, 1, 2, 3, 4);
+        due("believed by nobody", x.believed(3), 0);
+        due("strikes", x.strikes(0), 1);
+        due("crew", x.crew(-1), 0);
+        due("hears herself alone", x.hears(0, 12), 1);
+        due("no links", x.links(12), 0);
         due("an act on it", x.drift(0), 0);
         due("can be undone", x.undo(), 0);
         due("but none before it", x.undo(), NONE);

@@ -17,7 +17,7 @@ import java.util.regex.Pattern;
  */
 public final class FigureHeadsAgainstPlain {
     private static final int BAD = -1, NOT = -2, FULL = -3, NONE = -4, NULL = -11, CAST = -12, INDEX = -13, SIZE = -14;
-    private static final int RUNS = 600, CALLS = 480;
+    private static final int RUNS = 600, CALLS = 512;
 
     record Ship(char kind, int row, int column, char looking, int worm) {
         Ship wormed() {
@@ -687,23 +687,21 @@ public final class FigureHeadsAgainstPlain {
     }
 
     private static String randomFleet() {
-        int rows = 1 + RANDOM.nextInt(6);
-        int columns = 1 + RANDOM.nextInt(8);
+        return randomFleet(1 + RANDOM.nextInt(6), 1 + RANDOM.nextInt(8), 1 + RANDOM.nextInt(6));
+    }
+
+    private static String randomFleet(int rows, int columns, int ships) {
         String cells = pick("ab") == 'a' ? "......#o" : "........#";
         StringBuilder t = new StringBuilder("f");
         for (int r = 0; r < rows; r++) {
             if (r > 0) t.append('/');
             for (int c = 0; c < columns; c++) t.append(pick(cells));
         }
-        int ships = 1 + RANDOM.nextInt(6);
         for (int s = 0; s < ships; s++) {
-            int r = 0;
-            int c = 0;
-            for (int tries = 0; tries < 20; tries++) {
-                r = RANDOM.nextInt(rows);
-                c = RANDOM.nextInt(columns);
-                if (t.charAt(1 + r * (columns + 1) + c) != '#') break;
-            }
+            int r = RANDOM.nextInt(rows);
+            int c = RANDOM.nextInt(columns);
+            // Now and then she is left on a rock.
+            if (RANDOM.nextInt(60) > 0) t.setCharAt(1 + r * (columns + 1) + c, pick(cells.replace("#", "")));
             t.append(s == 0 ? ';' : ',').append(pick("oogdtmm")).append(r).append(c).append(pick("nesw")).append(pick("001235"));
         }
         t.append(';');
@@ -751,6 +749,8 @@ public final class FigureHeadsAgainstPlain {
 
     private static int wrong = 0;
     private static int compared = 0;
+    /** What an object answers behind its 512th call is free: then it is asked nothing more. */
+    private static int left = CALLS;
 
     private static void same(int run, String call, Object[] args, long got, long want) {
         compared++;
@@ -760,6 +760,8 @@ public final class FigureHeadsAgainstPlain {
     }
 
     private static void call(int run, FigureHeads x, Plain p, String name, Object... a) {
+        if (left == 0) return;
+        left--;
         long got;
         long want;
         int[] v = new int[7];
@@ -902,42 +904,79 @@ public final class FigureHeadsAgainstPlain {
         call(run, x, p, "fleet");
     }
 
-    /** Fleets whose tellers have some credit: all courses, links and talks. */
+    /** Fleets whose tellers have some credit: all links, talks and courses. */
     private static void compareForetold(int run) {
-        FigureHeads x = new FigureHeads();
-        Plain p = new Plain();
         String fleet = randomFleet();
-        feedText(run, x, p, fleet.substring(0, fleet.lastIndexOf(';') + 1) + "8" + pick("579") + "94");
-        if (p.world == null) return;
-        int ship = RANDOM.nextInt(p.world.ships.size());
-        int teller = RANDOM.nextInt(4);
+        String tape = fleet.substring(0, fleet.lastIndexOf(';') + 1) + "8" + pick("579") + "94";
+        FigureHeads x = null;
+        Plain p = new Plain();
+        left = 0;
         for (int cell = 0; cell < 48; cell++) {
+            // A new object, before the one at hand has been used too often.
+            if (left < 20) {
+                x = new FigureHeads();
+                p = new Plain();
+                left = CALLS;
+                feedText(run, x, p, tape);
+                if (p.world == null) return;
+                compareNights(run, x, p);
+            }
+            int ship = run % p.world.ships.size();
+            int teller = run / 7 % 4;
             int words = p.course(ship, teller, cell, -1);
             call(run, x, p, "course", ship, teller, cell, -1);
             for (int k = Math.max(0, words - 12); k <= words; k++) call(run, x, p, "course", ship, teller, cell, k);
         }
+    }
+
+    private static void compareNights(int run, FigureHeads x, Plain p) {
+        int ship = RANDOM.nextInt(p.world.ships.size());
+        int teller = RANDOM.nextInt(4);
         for (int d = 0; d <= 12; d++) call(run, x, p, "links", d);
         for (int n = 0; n <= 3; n++) call(run, x, p, "talk", ship, teller, (teller + 1) % 4, n);
     }
 
-    public static void main(String[] args) {
-        for (int run = 0; run < RUNS; run++) {
-            FigureHeads x = new FigureHeads();
-            Plain p = new Plain();
-            int first = compared;
-            if (run % 3 == 0) feedText(run, x, p, spoilt(randomFleet()));
-            feedText(run, x, p, randomFleet());
-            while (compared - first < CALLS) {
-                randomCall(run, x, p);
-                if (RANDOM.nextInt(150) == 0) feedText(run, x, p, RANDOM.nextBoolean() ? randomFleet() : spoilt(randomFleet()));
+    /** An object's whole use, at times with other fleets between. */
+    private static void compareWholeUse(int run) {
+        FigureHeads x = new FigureHeads();
+        Plain p = new Plain();
+        left = CALLS;
+        if (run % 3 == 0) feedText(run, x, p, spoilt(randomFleet()));
+        feedText(run, x, p, randomFleet());
+        while (left > 0) {
+            randomCall(run, x, p);
+            if (RANDOM.nextInt(150) == 0) feedText(run, x, p, RANDOM.nextBoolean() ? randomFleet() : spoilt(randomFleet()));
+        }
+    }
+
+    private static void compareSize(int run, int rows, int columns, int ships) {
+        FigureHeads x = new FigureHeads();
+        Plain p = new Plain();
+        left = CALLS;
+        feedText(run, x, p, randomFleet(rows, columns, ships));
+        while (left > 0) randomCall(run, x, p);
+    }
+
+    private static void compareEverySize(int first) {
+        int run = first;
+        for (int rows = 1; rows <= 6; rows++) {
+            for (int columns = 1; columns <= 8; columns++) {
+                for (int ships = 1; ships <= 6; ships++) compareSize(run++, rows, columns, ships);
             }
         }
-        for (int run = RUNS; run < RUNS + 6000; run++) {
-            feedText(run, new FigureHeads(), new Plain(), spoilt(RANDOM.nextBoolean() ? randomFleet() : spoilt(randomFleet())));
-        }
-        for (int run = RUNS + 6000; run < RUNS + 6100; run++) {
-            compareForetold(run);
-        }
+    }
+
+    private static void compareFaults(int run) {
+        left = CALLS;
+        feedText(run, new FigureHeads(), new Plain(), spoilt(RANDOM.nextBoolean() ? randomFleet() : spoilt(randomFleet())));
+    }
+
+    public static void main(String[] args) {
+        for (int run = 0; run < RUNS; run++) compareWholeUse(run);
+        for (int run = RUNS; run < RUNS + 6000; run++) compareFaults(run);
+        for (int run = RUNS + 6000; run < RUNS + 6100; run++) compareForetold(run);
+        compareEverySize(RUNS + 6100);
+        for (int run = RUNS + 6400; run < RUNS + 6440; run++) compareSize(run, 6, 8, 6);
         System.out.println(compared + " answers compared, " + wrong + " unlike");
         if (wrong != 0) {
             System.exit(1);

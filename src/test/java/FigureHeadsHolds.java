@@ -9,7 +9,7 @@ import java.util.List;
 import java.util.Random;
 import java.util.TreeSet;
 
-/** What holds for all calls: none throws, whatever its arguments; none makes objects; the face is the document's. */
+/** What holds for all calls: none throws, whatever its arguments; none makes objects; the face; the last turn. */
 public final class FigureHeadsHolds {
     private static final String[] FACE = {
         "int as(int,int)", "int believed(int)", "int copy(int,int,int,int,int)", "int count(int)",
@@ -181,8 +181,53 @@ public final class FigureHeadsHolds {
         due(made < 4096, "calls made " + made + " bytes, sum " + sum);
     }
 
+    private static void answers(String what, long got, long want) {
+        due(got == want, what + " answered " + got + ", wanted is " + want);
+    }
+
+    /**
+     * "FULL: it is TURN 9999" is met only far behind the 512th call, where the document leaves every answer free: this
+     * is the project's own wish, so that the words are not left without a test.
+     */
+    private static void turn9999IsTheLast() {
+        FigureHeads x = new FigureHeads();
+        feed(x, "f..;o00n5;9000");
+        x.fleet();
+        for (int turn = 1; turn <= 9998; turn++) {
+            x.drift(0);
+        }
+        answers("turn 9998", x.count(3), 9998);
+        answers("the last that is said", x.say(0, 0, 2), 1);
+        answers("turn 9999", x.count(3), 9999);
+        answers("say", x.say(0, 0, 0), FigureHeads.FULL);
+        answers("storm", x.storm(0, 0, 0, 1, 0), FigureHeads.FULL);
+        answers("drift", x.drift(0), FigureHeads.FULL);
+        answers("say to no ship", x.say(1, 0, 0), FigureHeads.BAD);
+        answers("storm of like tellers", x.storm(0, 1, 0, 1, 0), FigureHeads.BAD);
+        answers("drift of no ship", x.drift(-1), FigureHeads.BAD);
+        answers("what is refused is no turn", x.count(3), 9999);
+        answers("scrape is no turn", x.scrape(0), 4);
+        answers("learn is no turn", x.learn(1), 1);
+        answers("image", x.image(0), 9999);
+        answers("learn undone", x.undo(), 23);
+        answers("scrape undone", x.undo(), 22);
+        answers("say undone", x.undo(), 21);
+        answers("turn then", x.count(3), 9998);
+        answers("the last storm", x.storm(0, 0, 2, 1, 0), 1);
+        answers("drift behind it", x.drift(0), FigureHeads.FULL);
+        answers("undone", x.undo(), 21);
+        answers("the last drift", x.drift(0), 0);
+        answers("drift behind it", x.drift(0), FigureHeads.FULL);
+        answers("restore", x.restore(0), 9999);
+        answers("drift then", x.drift(0), FigureHeads.FULL);
+        feed(x, "f..;o00e0;9000");
+        answers("another fleet", x.fleet(), 1);
+        answers("drift in turn 0", x.drift(0), 1);
+    }
+
     public static void main(String[] args) throws IllegalAccessException {
         faceIsTheDocuments();
+        turn9999IsTheLast();
         nothingThrows();
         noEdgeThrows();
         callsMakeNothing();
